@@ -194,7 +194,8 @@ public final class LineEchoes {
     // ---- faults
 
     public int keepSound() {
-        return change(Command.SOUND, 0, 0, 0);
+        history.keep(now);
+        return carryOut(Command.SOUND, 0, 0, 0);
     }
 
     public int differences() {
@@ -228,7 +229,8 @@ public final class LineEchoes {
     // ---- peeling
 
     public int observe() {
-        return change(Command.LOOK, 0, 0, 0);
+        history.keep(now);
+        return carryOut(Command.LOOK, 0, 0, 0);
     }
 
     public long setObserved(int time, long energy) throws IllegalArgumentException {
@@ -272,7 +274,8 @@ public final class LineEchoes {
     }
 
     public int adopt() {
-        return change(Command.ADOPT, 0, 0, 0);
+        history.keep(now);
+        return carryOut(Command.ADOPT, 0, 0, 0);
     }
 
     // ---- scripts, undo and checksum
@@ -345,10 +348,11 @@ public final class LineEchoes {
 
     // ---- changes, for the methods and for the commands of a script
 
+    /** For the commands that may be refused, which are those that change the bench. */
     private int change(Command command, int first, int second, int third) {
         refuseUnlessFine(verdictOn(command, first, second, third));
         history.keep(now);
-        return carryOut(command, first, second, third);
+        return changeBench(command, first, second, third);
     }
 
     private Verdict verdictOn(Command command, int first, int second, int third) {
@@ -382,12 +386,12 @@ public final class LineEchoes {
                 forgetResults();
                 return now.bench.count;
             default:
-                forgetResults();
                 return changeBench(command, first, second, third);
         }
     }
 
     private int changeBench(Command command, int first, int second, int third) {
+        forgetResults();
         switch (command) {
             case PART:
                 return now.bench.append(first, second);
@@ -953,44 +957,54 @@ public final class LineEchoes {
         }
 
         void findLine(State state) {
-            line.count = 0;
-            line.takeSettings(state.bench);
-            line.pulses = 1;
-            line.pulseTimes[0] = 0;
-            line.pulseEnergies[0] = state.bench.pulseEnergies[0];
-            boolean goesOn = true;
-            for (int parts = 0; parts <= MOST_PARTS && goesOn; parts++) {
-                goesOn = findPart(state.seen);
+            startLine(state.bench);
+            // Every round but the last one finds a part, and with MOST_PARTS a round is the last.
+            for (int round = 0; round <= MOST_PARTS; round++) {
+                trial.spread(line);
+                int time = timeOfNextPart(state.seen);
+                if (time == NONE) {
+                    return;
+                }
+                int sum = line.reach(line.count);
+                int fraction = smallestFraction(time, sum, state.seen[time]);
+                if (fraction == NONE) {
+                    endWith(CONTRADICTION, time);
+                    return;
+                }
+                line.append(time / 2 - sum, fraction);
             }
         }
 
-        /** One round: true if a part was put to the line, false if peeling has ended. */
-        private boolean findPart(long[] seen) {
-            trial.spread(line);
+        private void startLine(Bench bench) {
+            line.count = 0;
+            line.takeSettings(bench);
+            line.pulses = 1;
+            line.pulseTimes[0] = 0;
+            line.pulseEnergies[0] = bench.pulseEnergies[0];
+        }
+
+        /** The time of an echo that asks for one more part; NONE if peeling has ended. */
+        private int timeOfNextPart(long[] seen) {
             int time = firstUnequal(seen, trial.echoes, line.window);
             if (time == NONE) {
-                return end(COMPLETE, NONE);
+                endWith(COMPLETE, NONE);
+                return NONE;
             }
             int sum = line.reach(line.count);
             if (seen[time] < trial.echoes[time] || time % 2 != 0 || time <= 2 * sum) {
-                return end(CONTRADICTION, time);
+                endWith(CONTRADICTION, time);
+                return NONE;
             }
-            int length = time / 2 - sum;
-            if (length > LONGEST_PART || line.count >= MOST_PARTS) {
-                return end(TOO_LONG, time);
+            if (time / 2 - sum > LONGEST_PART || line.count >= MOST_PARTS) {
+                endWith(TOO_LONG, time);
+                return NONE;
             }
-            int fraction = smallestFraction(time, sum, seen[time]);
-            if (fraction == NONE) {
-                return end(CONTRADICTION, time);
-            }
-            line.append(length, fraction);
-            return true;
+            return time;
         }
 
-        private boolean end(int howItEnds, int time) {
+        private void endWith(int howItEnds, int time) {
             result = howItEnds;
             endTime = time;
-            return false;
         }
 
         /**
