@@ -1110,7 +1110,6 @@ public final class LineEchoes {
                 return false;
             }
             command = spelled;
-            Arrays.fill(numbers, 0);
             for (int i = 0; i < command.numberCount && i < MOST_NUMBERS; i++) {
                 if (!readNumber(i)) {
                     return false;

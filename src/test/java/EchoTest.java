@@ -95,6 +95,7 @@ public final class EchoTest {
         totals("a pulse meets what is turned back", y, 100005, 40000, 50000, 0, 10005, 1, 0, 1, 40000);
         y.setBench(0, 1, 6);
         Check.same("nothing is turned back, no merging", y.total(5), 0);
+        oneOfEnergy();
         LineEchoes z = new LineEchoes();
         z.addPart(2, 0);
         z.addPart(1, 1000);
@@ -106,6 +107,20 @@ public final class EchoTest {
         z.setPart(0, 2, 500);
         // 50000 of the first pulse comes back at 4; the second pulse's 40 arrives there then, too.
         totals("two mergings at one joint", z, 100040, 50000, 0, 0, 50040, 2, 0, 1, 50000);
+    }
+
+    /** The smallest energies count: 1 is echoed and 1 turned back, where a pulse sets out. */
+    private static void oneOfEnergy() {
+        LineEchoes x = new LineEchoes();
+        x.addPart(1, 1000);
+        x.addPulse(0, 2);
+        x.removePulse(0);
+        x.setBench(500, 1, 100);
+        totals("echoes of 1", x, 2, 2, 0, 0, 0, 0, 0, 2, 1);
+        Check.same("echoTime of an echo of 1", x.echoTime(1), 4);
+        x.addPulse(2, 3);
+        Check.same("1 is merged with a pulse", x.total(5), 1);
+        Check.same("into 4", x.arrival(1, 3, false), 4);
     }
 
     private static void threeJoints() {

@@ -84,6 +84,9 @@ public final class PeelTest {
         LineEchoes x = new LineEchoes();
         x.setObserved(0, 5);
         peeled("at 0", x, LineEchoes.CONTRADICTION, 0, 0, 0);
+        x.setObserved(0, 100000);
+        peeled("all at 0", x, LineEchoes.CONTRADICTION, 0, 0, 0);
+        x.undo();
         x.undo();
         x.setObserved(7, 5000);
         peeled("odd", x, LineEchoes.CONTRADICTION, 7, 0, 0);

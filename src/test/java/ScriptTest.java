@@ -86,6 +86,10 @@ public final class ScriptTest {
         faultAt("  loo", 2);
         faultAt("  loo;", 2);
         faultAt("lookk;", 0);
+        faultAt("lookz;", 0);
+        faultAt("looka;", 0);
+        faultAt("part look;x", 5);
+        faultAt("part 1 look;x", 7);
         faultAt("look;adop", 5);
         faultAt("look;adopt", 10);
         faultAt("loOk;", 0);

@@ -64,6 +64,10 @@ public final class UndoTest {
             long before = answers(x);
             apply(x, i);
             Check.holds(names[i] + " changes something", answers(x) != before);
+            LineEchoes notAsked = much();
+            type(notAsked, "part 2 222;look;sound;pulse 1 1;");
+            apply(notAsked, i);
+            Check.same(names[i] + " answers anew", answers(x), answers(notAsked));
             Check.same(names[i] + " saves a state", x.undo(), 2);
             Check.same("undo of " + names[i], answers(x), before);
         }
