@@ -9,6 +9,7 @@ public final class PeelTest {
         contradictions();
         tooLong();
         smallestFraction();
+        everyFraction();
         dropping();
         settings();
         linesFoundBack();
@@ -151,6 +152,14 @@ public final class PeelTest {
         foundParts("energy 10", x, 1, 1000);
         x.setObserved(2, 11);
         peeled("more than the pulse", x, LineEchoes.CONTRADICTION, 2, 0, 0);
+    }
+
+    private static void everyFraction() {
+        for (int fraction = 1; fraction <= 1000; fraction++) {
+            LineEchoes x = new LineEchoes();
+            x.setObserved(2, 100L * fraction);
+            Check.same("a fraction of " + fraction, x.found(0, 1), fraction);
+        }
     }
 
     private static void dropping() {

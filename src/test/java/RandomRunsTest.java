@@ -8,14 +8,16 @@ import java.util.Random;
 
 /** Long runs of calls on LineEchoes and on PlainLineEchoes, whose answers must be the same. */
 public final class RandomRunsTest {
-    private static final int RUNS = 1500;
-    private static final int CALLS = 120;
+    private static final int RUNS = 2500;
+    // An object is used for at most 512 calls: a step takes up to 123, the last look up to 114.
+    private static final int CALLS_BEFORE_LAST_STEP = 270;
 
     private final Random random;
     private final LineEchoes one = new LineEchoes();
     private final PlainLineEchoes other = new PlainLineEchoes();
     private final StringBuilder told = new StringBuilder();
     private final boolean wild;
+    private int made = 0;
 
     private RandomRunsTest(long seed) {
         random = new Random(seed);
@@ -49,8 +51,7 @@ public final class RandomRunsTest {
     private static final List<Method> FACE = face();
 
     private boolean isAlike() throws Exception {
-        int calls = 0;
-        while (calls < CALLS) {
+        while (made < CALLS_BEFORE_LAST_STEP) {
             int kind = random.nextInt(40);
             if (kind == 0) {
                 if (!typeScript()) {
@@ -71,9 +72,10 @@ public final class RandomRunsTest {
                     return false;
                 }
             }
-            calls++;
         }
-        return lookAtAll() && call("digest");
+        boolean alike = lookAtAll() && call("digest");
+        Check.holds("at most 512 calls, not " + made, made <= 512);
+        return alike;
     }
 
     private static Object invoke(Object target, String name, Object[] arguments) throws Exception {
@@ -91,6 +93,7 @@ public final class RandomRunsTest {
     }
 
     private boolean call(String name, Object... arguments) throws Exception {
+        made++;
         Object got = invoke(one, name, arguments);
         Object due = invoke(other, name, arguments);
         String line = name + java.util.Arrays.toString(arguments);
@@ -106,8 +109,10 @@ public final class RandomRunsTest {
     private boolean lookAtAll() throws Exception {
         boolean alike = true;
         int window = one.bench(4);
-        for (int joint = 0; joint <= one.bench(0) && alike; joint++) {
-            for (int i = 0; i < 12 && alike; i++) {
+        int n = one.bench(0);
+        made += 2;
+        for (int joint = 0; joint <= n && alike; joint++) {
+            for (int i = 0; i < 4 && alike; i++) {
                 int time = random.nextInt(window + 1);
                 alike = call("arrival", joint, time, true) && call("arrival", joint, time, false);
             }
@@ -153,6 +158,7 @@ public final class RandomRunsTest {
 
     private long observedEnergy(int time) {
         if (time >= 0 && time <= 200 && random.nextInt(3) != 0) {
+            made++;
             return one.observed(time) + random.nextInt(5) - 2;
         }
         if (random.nextInt(20) == 0) {
@@ -165,6 +171,7 @@ public final class RandomRunsTest {
     private Object[] arguments(Method m) {
         int n = one.bench(0);
         int window = one.bench(4);
+        made += 2;
         switch (m.getName()) {
             case "addPart":
                 return new Object[] {length(), fraction()};

@@ -5,7 +5,7 @@ import java.lang.management.ManagementFactory;
  * rows are made in the constructor: an object is small, and calls make next to nothing.
  */
 public final class RoomTest {
-    private static final int ROUNDS = 60;
+    private static final int ROUNDS = 8;
 
     public static void main(String[] args) {
         com.sun.management.ThreadMXBean threads =
@@ -17,7 +17,7 @@ public final class RoomTest {
         long before = threads.getThreadAllocatedBytes(id);
         long sum = useAll(x, ROUNDS);
         long used = threads.getThreadAllocatedBytes(id) - before;
-        Check.holds("calls make next to nothing, not " + used + " bytes", used < 20000);
+        Check.holds("calls make next to nothing, not " + used + " bytes", used < 4000);
         before = threads.getThreadAllocatedBytes(id);
         LineEchoes y = new LineEchoes();
         used = threads.getThreadAllocatedBytes(id) - before;
