@@ -76,7 +76,8 @@ public final class EchoTest {
         Check.same("it does not arrive", x.arrival(1, 53, false), 0);
         LineEchoes edge = onePart(1000, 49);
         edge.addPulse(50, 999);
-        totals("a small pulse behind the window", edge, 100000, 44000, 55500, 500, 0, 0, 1, 2, 40000);
+        totals("a small pulse behind the window", edge,
+                100000, 44000, 55500, 500, 0, 0, 1, 2, 40000);
     }
 
     private static void merging() {
@@ -92,7 +93,8 @@ public final class EchoTest {
         totals("four pulses, merged and kept", x, 1000, 0, 500, 500, 0, 1, 1, 0, 0);
         LineEchoes y = onePart(1, 6);
         y.addPulse(6, 5);
-        totals("a pulse meets what is turned back", y, 100005, 40000, 50000, 0, 10005, 1, 0, 1, 40000);
+        totals("a pulse meets what is turned back", y,
+                100005, 40000, 50000, 0, 10005, 1, 0, 1, 40000);
         y.setBench(0, 1, 6);
         Check.same("nothing is turned back, no merging", y.total(5), 0);
         oneOfEnergy();
