@@ -74,7 +74,8 @@ public final class DigestEdgeTest {
         for (int what = 0; what <= 8; what++) {
             values.add(x.total(what));
         }
-        for (int time = 0; time <= x.bench(4); time++) {
+        int window = x.bench(4);
+        for (int time = 0; time <= window; time++) {
             values.add(x.echo(time));
         }
         LineEchoes y = maker.make();

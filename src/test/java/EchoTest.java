@@ -12,6 +12,7 @@ public final class EchoTest {
         noParts();
         greatestNumbers();
         text();
+        digitsOfText();
         wrongInputs();
         Check.finish();
     }
@@ -194,6 +195,37 @@ public final class EchoTest {
         Check.same("byte far behind", x.echoByte(Integer.MAX_VALUE), LineEchoes.NONE);
         Check.same("byte behind", x.echoByte(31), LineEchoes.NONE);
         Check.same("last byte", x.echoByte(30), ';');
+    }
+
+    /** Numbers around a change of their digits; 4000000 is the greatest echo. */
+    private static void digitsOfText() {
+        LineEchoes x = new LineEchoes();
+        x.addPart(1, 1000);
+        x.setBench(0, 1, 200);
+        x.addPulse(7, 9);
+        x.addPulse(8, 10);
+        x.addPulse(97, 99);
+        x.removePulse(0);
+        x.addPulse(98, 101);
+        Check.sameText("small", textOf(x), "9:9;10:10;99:99;100:101;");
+        LineEchoes y = new LineEchoes();
+        y.addPart(20, 0);
+        y.addPart(20, 0);
+        y.addPart(10, 1000);
+        y.setBench(0, 1, 200);
+        y.addPulse(100, 1000000);
+        y.addPulse(99, 999999);
+        y.addPulse(9, 123456);
+        Check.sameText("great", textOf(y), "100:100000;109:123456;199:999999;200:1000000;");
+        LineEchoes z = new LineEchoes();
+        z.addPart(1, 1000);
+        for (int i = 0; i < 3; i++) {
+            z.addPulse(0, 1000000);
+        }
+        z.removePulse(0);
+        z.addPulse(0, 1000000);
+        Check.sameText("the greatest", textOf(z), "2:4000000;");
+        Check.same("total(8)", z.total(8), 4000000);
     }
 
     private static void wrongInputs() {

@@ -97,6 +97,11 @@ public final class FullEdgeTest {
         Check.same("arrival at the joint 7", x.arrival(7, 116, true), 50000);
         Check.same("the echo", x.echo(200), 50000);
         Check.same("what left", x.total(2), 50000);
+        x.setPart(7, 15, 500);
+        Check.same("nothing comes to it at 100", x.arrival(8, 100, false), 0);
+        Check.same("but at 99", x.arrival(8, 99, false), 100000);
+        Check.same("the echo is earlier", x.echo(198), 50000);
+        Check.same("and alone", x.total(7), 1);
     }
 
     /** "There are up to 4 pulses"; the numbers of those behind a removed one decrease by 1. */
@@ -162,15 +167,15 @@ public final class FullEdgeTest {
         Check.refuses("it is still full", STATE, () -> x.type(59));
         Check.same("undo", x.undo(), 2);
         Check.refuses("undo leaves it full", STATE, () -> x.type(59));
-        x.clearScript();
-        Twins.type(x, "sound;".repeat(20));
-        Check.same("20 commands", x.run(), 20);
-        x.clearScript();
-        Twins.type(x, "look;".repeat(24));
-        Check.same("24 commands", x.run(), 24);
-        x.clearScript();
-        Twins.type(x, "look;".repeat(23) + "look ");
-        Check.same("it ends too soon", x.run(), -130);
+        Check.same("20 commands", runOf("sound;".repeat(20)), 20);
+        Check.same("24 commands", runOf("look;".repeat(24)), 24);
+        Check.same("it ends too soon", runOf("look;".repeat(23) + "look "), -130);
+    }
+
+    private static long runOf(String script) {
+        LineEchoes x = new LineEchoes();
+        Twins.type(x, script);
+        return x.run();
     }
 
     /** "The stack keeps the latest 3 saved states and drops older ones." */

@@ -191,6 +191,10 @@ public final class LeastEdgeTest {
             Check.same("with " + more + " pulses", y.total(5), 1);
             Check.same("under way", y.total(4), 500 + more);
         }
+        LineEchoes ones = line(2, 1, 1, 1000);
+        ones.setBench(500, 1, 2);
+        ones.addPulse(2, 1);
+        totals("1 is turned back, 1 is a pulse", ones, 3, 1, 0, 0, 2, 1, 0, 1, 1);
     }
 
     /** At 3 the joint 1 is met by half of the first pulse from far and by the second from near. */
@@ -217,6 +221,11 @@ public final class LeastEdgeTest {
         totals("all is turned back", crossing(1000, 600), 2600, 2000, 0, 0, 600, 0, 0, 1, 2000);
         // Of the second pulse's 1 nothing is turned back, so only what passes is merged.
         totals("one way alone", crossing(500, 1), 2001, 1000, 0, 0, 1001, 1, 0, 1, 1000);
+        // 2 passes at 1 and comes back at 3: there 1 is turned back and 1 passes.
+        LineEchoes ones = line(4, 1, 1, 500, 1, 1000);
+        ones.addPulse(2, 2);
+        ones.setBench(0, 1, 3);
+        totals("1 and 1 each way", ones, 6, 2, 0, 0, 4, 2, 0, 1, 2);
         LineEchoes front = line(1000, 1, 1, 1000);
         front.addPulse(2, 5);
         totals("the front turns nothing back", front, 1005, 1005, 0, 0, 0, 0, 0, 2, 1000);

@@ -22,6 +22,7 @@ public final class ScriptEdgeTest {
         spaces();
         numberCounts();
         firstFaultCounts();
+        nothingStaysOfAnEmptiedScript();
         faultDoesNothing();
         edgesAreCarriedOut();
         stopsAtWhatWouldThrow();
@@ -134,6 +135,11 @@ public final class ScriptEdgeTest {
         for (int from = 0; from < 4; from++) {
             String shifted = " ".repeat(110 + from) + "part 5 300".substring(0, 10 - from);
             faultAt(shifted, 120);
+        }
+        for (String command : COMMANDS) {
+            String word = command.replaceAll("[^a-z]", "");
+            faultAt(" ".repeat(120 - word.length()) + word, 120);
+            faultAt(" ".repeat(121 - word.length()) + word.substring(1), 121 - word.length());
         }
     }
 
@@ -257,6 +263,32 @@ public final class ScriptEdgeTest {
         faultAt("part;lok", 4);
         faultAt("look;cut;cut", 8);
         faultAt("part 1234567 x;;", 11);
+        faultAt("part look;x", 5);
+        faultAt("part 5 look;look", 7);
+        faultAt("cut look;x", 4);
+        faultAt("look 5;x", 5);
+        faultAt("set 1 2 look;look;!", 8);
+    }
+
+    /** What was typed before the script was emptied is no part of it. */
+    private static void nothingStaysOfAnEmptiedScript() {
+        for (String command : COMMANDS) {
+            for (int size = 0; size < command.length(); size++) {
+                LineEchoes x = threeParts();
+                Twins.type(x, command + command);
+                x.clearScript();
+                Twins.type(x, command.substring(0, size));
+                String fresh = command.substring(0, size);
+                Check.same("'" + fresh + "' behind '" + command + "'", x.run(), runOf(fresh));
+            }
+        }
+        LineEchoes x = threeParts();
+        Twins.type(x, "look;".repeat(24));
+        x.clearScript();
+        Twins.type(x, "look");
+        Check.same("four bytes alone", x.run(), -14);
+        x.type(';');
+        Check.same("five bytes alone", x.run(), 1);
     }
 
     /** "if it has a fault, nothing is done", also not what stands before it. */

@@ -42,7 +42,7 @@ public final class UndoTest {
         }
         int window = x.bench(4);
         int middle = x.bench(0) / 2;
-        for (int time = 0; time <= window; time += 5) {
+        for (int time = 0; time <= window; time += 9) {
             h = 31 * h + x.echo(time);
             h = 31 * h + x.arrival(middle, time, true);
             h = 31 * h + x.arrival(middle, time, false);
@@ -53,9 +53,9 @@ public final class UndoTest {
             h = 31 * h + x.peel(what);
         }
         for (int time = 0; time <= 200; time += 10) {
-            h = 31 * h + x.observed(time) + x.observed(7);
+            h = 31 * h + x.observed(time);
         }
-        return h;
+        return 31 * h + x.observed(7);
     }
 
     private static void everythingIsSaved() {
@@ -192,7 +192,8 @@ public final class UndoTest {
         for (int what = 0; what <= 8; what++) {
             h = 31 * h + x.total(what);
         }
-        for (int time = 0; time <= x.bench(4); time++) {
+        int window = x.bench(4);
+        for (int time = 0; time <= window; time++) {
             h = 31 * h + x.echo(time);
         }
         h = 31 * h + x.differences();
